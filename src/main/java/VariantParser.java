@@ -432,7 +432,11 @@ public final class VariantParser {
       groupCounts[i] = 0;
       if (Grammar.isToken(source.codes[i])) {
         groupCounts[i] = countGroups(i);
-        takeToken(i);
+        for (int c = 0; c < CONFIGURATIONS; c++) {
+          if (isReadBy(c, i)) {
+            variantOf[c].reading.take(source.codes[i], i);
+          }
+        }
       }
     }
     for (int c = 0; c < CONFIGURATIONS; c++) {
@@ -444,14 +448,6 @@ public final class VariantParser {
     for (int c = 0; c < CONFIGURATIONS; c++) {
       if (variantOf[c].reading.errorPlace == NONE) {
         variantOf[c].run.execute(variantOf[c].tokens, variantOf[c].count);
-      }
-    }
-  }
-
-  private void takeToken(int item) {
-    for (int c = 0; c < CONFIGURATIONS; c++) {
-      if (isReadBy(c, item)) {
-        variantOf[c].reading.take(source.codes[item], item);
       }
     }
   }
@@ -603,6 +599,7 @@ public final class VariantParser {
 
   /** For each item the configurations in which it is present, and those with a feature on. */
   private static final class Walk {
+    /** For each feature f the configurations whose number holds 2^f. */
     private static final int[] ON_AT_FIRST = {0xAAAA, 0xCCCC, 0xF0F0, 0xFF00};
 
     final int[] present = new int[MAX_ITEMS];
@@ -673,6 +670,7 @@ public final class VariantParser {
     }
   }
 
+  /** For rows of which only the beginning is in use. */
   private static final class Rows {
     /** From the last number on, as two stacks differ at their tops sooner than at their bottoms. */
     static boolean areSame(int[] row, int[] other, int count) {
@@ -748,7 +746,18 @@ public final class VariantParser {
     }
 
     static boolean canBeginStatement(int token) {
-      return isName(token) || token == '{' || token == '?' || token == '!';
+      switch (token) {
+        case 'a':
+        case 'b':
+        case 'c':
+        case 'd':
+        case '{':
+        case '?':
+        case '!':
+          return true;
+        default:
+          return false;
+      }
     }
 
     /** The sequence that replaces a symbol, its first one first; null if it is an error. */

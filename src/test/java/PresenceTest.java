@@ -11,6 +11,7 @@ public final class PresenceTest {
     presenceOfOne();
     presenceWithin();
     presenceBehindSet();
+    presenceBehindChanges();
     presenceErrors();
     on();
     features();
@@ -57,6 +58,35 @@ public final class PresenceTest {
         ALL, ON[1], ALL, ALL, ON[1] | ON[2], ALL, ALL & ~(ON[1] | ON[2]), ALL);
     presences("W1 C2 D V2 1 D",
         ALL, ON[1], ALL, ALL, ON[1] | (ALL - ON[2]), ALL);
+  }
+
+  private static void presenceBehindChanges() {
+    VariantParser x = Make.parser("W0 1");
+    for (int k = 0; k < 10; k++) {
+      Check.equal("presence(1)", x.presence(1), ON[0]);
+      x.write('2');
+      Check.equal("presence of the last", x.presence(2 + k), ON[0]);
+    }
+    x.otherwise();
+    x.write('3');
+    Check.equal("presence behind OTHERWISE", x.presence(13), ALL - ON[0]);
+    x.drop();
+    x.drop();
+    x.done();
+    x.write('3');
+    Check.equal("presence behind DONE", x.presence(13), ALL);
+    x.drop();
+    x.drop();
+    x.set(1, true);
+    x.when(1, false);
+    x.write('4');
+    Check.equal("presence behind SET", x.presence(14), 0);
+    x.drop();
+    x.drop();
+    x.drop();
+    x.when(1, false);
+    x.write('4');
+    Check.equal("presence behind drop() of a SET", x.presence(13), ON[0] & ~ON[1]);
   }
 
   private static void presenceErrors() {

@@ -128,6 +128,8 @@ public final class ReadingTest {
         Make.parser("V3 a=1; D W3 : D V3 : D").firstError(), 7);
     Check.equal("firstError() at the end", Make.parser("W0 { D").firstError(), 3);
     Check.equal("firstError() ahead of the end", Make.parser("W0 { D V0 ) D").firstError(), 4);
+    Check.equal("firstError() of configuration 0",
+        Make.parser("V0 V1 V2 V3 ; DDDD").firstError(), 4);
     Check.equal("firstError() at 0", Make.parser(")").firstError(), 0);
   }
 
@@ -147,6 +149,12 @@ public final class ReadingTest {
     groupsAre("a=1;;b", 1, 1, 1, 1, 1, 0);
     groupsAre("S0a=1;C3", 0, 1, 1, 1, 1, 0);
     groupsAre("S0 V0 a D", 0, 0, 0, 0);
+    VariantParser y = Make.parser("a=1;");
+    Check.equal("groups(3) of a token", y.groups(3), 1);
+    y.drop();
+    y.set(0, true);
+    Check.equal("groups(3) of the SET in its place", y.groups(3), 0);
+    Check.equal("work() behind drop()", y.work(), 3);
     VariantParser x = Make.parser("a W0 1");
     Check.throwing("groups(3)", x, INDEX, () -> x.groups(3));
     Check.throwing("groups(-1)", x, INDEX, () -> x.groups(-1));

@@ -150,6 +150,13 @@ public final class RunningTest {
     Check.equal("output(0, 0)", y.output(0, 0), 1);
     y.replace(1, '2');
     Check.equal("output(0, 0) behind replace()", y.output(0, 0), 2);
+    VariantParser z = Make.parser("!a;!d;a=1;d=2;");
+    Check.equal("output(0, 0) ahead of a=1", z.output(0, 0), 0);
+    z.replace(1, 'd');
+    Check.equal("output(0, 0) run again", z.output(0, 0), 0);
+    Check.equal("output(0, 1) run again", z.output(0, 1), 0);
+    z.replace(4, 'a');
+    Check.equal("output(0, 1) run once more", z.output(0, 1), 0);
     y.write(Make.number("!a;"));
     Check.equal("outputs(0) behind write()", y.outputs(0), 2);
     y.drop();
