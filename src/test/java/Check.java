@@ -4,9 +4,26 @@ final class Check {
     void run();
   }
 
+  /** So many wrong answers are told, of a test and of each sentence. */
+  private static final int MOST_TOLD = 20;
+
   private static int wrong = 0;
+  private static int told = 0;
+  private static String sentence = "";
 
   private Check() {}
+
+  /** Runs the test of one sentence of the document, which is told with each wrong answer. */
+  static void sentence(String quoted, Call test) {
+    sentence = "[" + quoted + "] ";
+    told = 0;
+    try {
+      test.run();
+    } catch (RuntimeException e) {
+      fail("a call threw " + e);
+    }
+    sentence = "";
+  }
 
   static void equal(String call, long got, long want) {
     if (got != want) {
@@ -29,12 +46,7 @@ final class Check {
   /** The call must throw exactly this class, and must leave the parser as it was. */
   static void throwing(String call, VariantParser parser, Class<?> want, Call run) {
     String before = state(parser);
-    String got = "nothing";
-    try {
-      run.run();
-    } catch (RuntimeException e) {
-      got = e.getClass().getName();
-    }
+    String got = thrownBy(run);
     if (!got.equals(want.getName())) {
       fail(call + " threw " + got + ", due is " + want.getName());
     }
@@ -43,19 +55,25 @@ final class Check {
     }
   }
 
-  private static String state(VariantParser parser) {
-    StringBuilder text = new StringBuilder();
-    text.append(parser.unfinished()).append(' ').append(parser.digest());
-    for (int i = 0; i < parser.size(); i++) {
-      text.append(' ').append(parser.item(i));
+  static String thrownBy(Call run) {
+    try {
+      run.run();
+    } catch (RuntimeException e) {
+      return e.getClass().getName();
     }
-    return text.toString();
+    return "nothing";
+  }
+
+  /** In three calls, since a parser is used for 512 calls at most. */
+  private static String state(VariantParser parser) {
+    return parser.size() + " " + parser.unfinished() + " " + parser.digest();
   }
 
   static void fail(String message) {
     wrong++;
-    if (wrong <= 50) {
-      System.out.println(message);
+    if (told < MOST_TOLD) {
+      told++;
+      System.out.println(sentence + message);
     }
   }
 

@@ -39,6 +39,15 @@ final class Make {
     }
   }
 
+  /** So many times the token 1, in few calls. */
+  static VariantParser tokens(int count) {
+    VariantParser parser = new VariantParser();
+    for (int left = count; left > 0; left -= 8) {
+      parser.write(number("11111111".substring(0, Math.min(left, 8))));
+    }
+    return parser;
+  }
+
   /** The number whose bytes are these characters, the first one highest. */
   static long number(String characters) {
     long number = 0;

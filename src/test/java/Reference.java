@@ -8,8 +8,78 @@ import java.util.Set;
  * texts for stacks, to be compared with the parser: slow, and without limits.
  */
 final class Reference {
+  static final String TOKENS = "0123456789abcd+-*()=;{}?:!";
+
   /** As item() tells them. */
-  final List<Integer> items = new ArrayList<>();
+  private final List<Integer> items = new ArrayList<>();
+  private final Walked[] walks = new Walked[16];
+  private final ReadText[] readings = new ReadText[16];
+
+  // ---- changes
+
+  void append(int item) {
+    items.add(item);
+    forget();
+  }
+
+  void drop() {
+    items.remove(items.size() - 1);
+    forget();
+  }
+
+  void replace(int item, int token) {
+    items.set(item, token);
+    forget();
+  }
+
+  private void forget() {
+    java.util.Arrays.fill(walks, null);
+    java.util.Arrays.fill(readings, null);
+  }
+
+  // ---- items
+
+  int size() {
+    return items.size();
+  }
+
+  int item(int item) {
+    return items.get(item);
+  }
+
+  boolean isToken(int item) {
+    return items.get(item) > 17;
+  }
+
+  boolean canAppend(int item) {
+    if (items.size() == 80) {
+      return false;
+    } else if (item < 8) {
+      return unfinished() < 5;
+    } else if (item == 16) {
+      return unfinished() > 0 && !lastHasOtherwise();
+    }
+    return item != 17 || unfinished() > 0;
+  }
+
+  private boolean lastHasOtherwise() {
+    List<Boolean> has = new ArrayList<>();
+    for (int item : items) {
+      if (item < 8) {
+        has.add(false);
+      } else if (item == 16) {
+        has.set(has.size() - 1, true);
+      } else if (item == 17) {
+        has.remove(has.size() - 1);
+      }
+    }
+    return has.get(has.size() - 1);
+  }
+
+  @Override
+  public String toString() {
+    return items.toString();
+  }
 
   int presence(int item) {
     int set = 0;
@@ -43,7 +113,7 @@ final class Reference {
     List<Integer> places = new ArrayList<>();
     List<Boolean> present = walk(configuration).present;
     for (int i = 0; i < items.size(); i++) {
-      if (items.get(i) > 17 && present.get(i)) {
+      if (isToken(i) && present.get(i)) {
         places.add(i);
       }
     }
@@ -69,7 +139,7 @@ final class Reference {
   int dead() {
     int count = 0;
     for (int i = 0; i < items.size(); i++) {
-      count += items.get(i) > 17 && presence(i) == 0 ? 1 : 0;
+      count += isToken(i) && presence(i) == 0 ? 1 : 0;
     }
     return count;
   }
@@ -109,9 +179,85 @@ final class Reference {
     return stacks.size();
   }
 
+  int wrong() {
+    int set = 0;
+    for (int c = 0; c < 16; c++) {
+      set |= error(c) >= 0 ? 1 << c : 0;
+    }
+    return set;
+  }
+
+  int firstError() {
+    int least = -1;
+    for (int c = 0; c < 16; c++) {
+      int error = error(c);
+      least = error >= 0 && (least < 0 || error < least) ? error : least;
+    }
+    return least;
+  }
+
+  int work() {
+    int sum = 0;
+    for (int i = 0; i < items.size(); i++) {
+      sum += groups(i);
+    }
+    return sum;
+  }
+
+  double gain() {
+    int read = 0;
+    for (int c = 0; c < 16; c++) {
+      read += stacks(c).size();
+    }
+    return work() == 0 ? 0.0 : (double) read / work();
+  }
+
+  int stack(int configuration, int index) {
+    List<String> stacks = stacks(configuration);
+    return index < stacks.size() ? stacks.get(index).length() : -1;
+  }
+
   /** The variables behind the variant, and then the values that it writes. */
   int[] run(int configuration) {
     return new Runner(text(configuration)).run();
+  }
+
+  int[] outputs(int configuration) {
+    int[] run = run(configuration);
+    return java.util.Arrays.copyOfRange(run, 4, run.length);
+  }
+
+  int behaviours() {
+    Set<String> written = new HashSet<>();
+    for (int c = 0; c < 16; c++) {
+      if (error(c) < 0) {
+        written.add(java.util.Arrays.toString(outputs(c)));
+      }
+    }
+    return written.size();
+  }
+
+  long digest() {
+    List<Integer> numbers = new ArrayList<>();
+    numbers.add(items.size());
+    for (int i = 0; i < items.size(); i++) {
+      numbers.add(items.get(i));
+      numbers.add(presence(i));
+    }
+    for (int c = 0; c < 16 && unfinished() == 0; c++) {
+      numbers.add(error(c));
+      if (error(c) < 0) {
+        numbers.add(outputs(c).length);
+        for (int value : outputs(c)) {
+          numbers.add(value);
+        }
+      }
+    }
+    java.math.BigInteger d = java.math.BigInteger.valueOf(139);
+    for (int x : numbers) {
+      d = d.multiply(java.math.BigInteger.valueOf(31)).add(java.math.BigInteger.valueOf(x));
+    }
+    return d.longValue();
   }
 
   private static final class Walked {
@@ -120,6 +266,13 @@ final class Reference {
   }
 
   private Walked walk(int configuration) {
+    if (walks[configuration] == null) {
+      walks[configuration] = walkOnce(configuration);
+    }
+    return walks[configuration];
+  }
+
+  private Walked walkOnce(int configuration) {
     Walked walked = new Walked();
     boolean[] on = new boolean[4];
     for (int f = 0; f < 4; f++) {
@@ -157,6 +310,13 @@ final class Reference {
   }
 
   private ReadText read(int configuration) {
+    if (readings[configuration] == null) {
+      readings[configuration] = readOnce(configuration);
+    }
+    return readings[configuration];
+  }
+
+  private ReadText readOnce(int configuration) {
     ReadText answer = new ReadText();
     String text = text(configuration) + "$";
     String stack = "P";

@@ -1,11 +1,10 @@
-import java.util.HashSet;
 import java.util.List;
-import java.util.Set;
 
 /** Many sources, made by a fixed sequence of numbers, against what the Reference tells of them. */
 public final class SweepTest {
   private static final int SOURCES = 500;
-  private static final String TOKENS = "0123456789abcd+-*()=;{}?:!";
+  /** So many items are looked at in one parser, which is used for 512 calls at most. */
+  private static final int ITEMS_AT_ONCE = 40;
   private static long seed = 20261119;
 
   private SweepTest() {}
@@ -13,12 +12,12 @@ public final class SweepTest {
   public static void main(String[] args) {
     int wellFormed = 0;
     for (int k = 0; k < SOURCES; k++) {
-      VariantParser x = new VariantParser();
-      Reference want = new Reference();
-      fill(x, want);
-      wellFormed += compare(x, want);
-      change(x, want);
-      wellFormed += compare(x, want);
+      History history = new History();
+      fill(history);
+      wellFormed += compare(history);
+      history.look();
+      change(history);
+      wellFormed += compare(history);
     }
     if (wellFormed < SOURCES) {
       Check.fail("only " + wellFormed + " variants without an error were compared");
@@ -31,9 +30,13 @@ public final class SweepTest {
     return (int) ((seed >>> 33) % bound);
   }
 
+  private static char token() {
+    return Reference.TOKENS.charAt(below(Reference.TOKENS.length()));
+  }
+
   // ---- making a source
 
-  private static void fill(VariantParser x, Reference want) {
+  private static void fill(History history) {
     StringBuilder text = new StringBuilder();
     int statements = 1 + below(6);
     for (int k = 0; k < statements; k++) {
@@ -42,19 +45,18 @@ public final class SweepTest {
     int share = 3 + below(12);
     for (int k = 0; k < text.length(); k++) {
       if (below(share) == 0) {
-        directive(x, want);
+        directive(history);
       }
-      write(x, want, text.charAt(k));
+      history.append(text.charAt(k));
       if (below(60) == 0) {
-        write(x, want, TOKENS.charAt(below(TOKENS.length())));
+        history.append(token());
       }
     }
     for (int k = below(8); k > 0; k--) {
-      directive(x, want);
+      directive(history);
     }
-    while (x.unfinished() > 0 && x.size() < 80 && below(30) != 0) {
-      x.done();
-      want.items.add(17);
+    while (history.want.canAppend(17) && below(30) != 0) {
+      history.append(17);
     }
   }
 
@@ -105,138 +107,111 @@ public final class SweepTest {
     }
   }
 
-  private static void write(VariantParser x, Reference want, char token) {
-    if (x.size() < 80) {
-      x.write(token);
-      want.items.add((int) token);
-    }
-  }
-
-  private static void directive(VariantParser x, Reference want) {
+  private static void directive(History history) {
     int kind = below(5);
-    int feature = below(4);
-    boolean isOn = below(2) == 0;
-    int number = 2 * feature + (isOn ? 1 : 0);
-    try {
-      if (kind == 0) {
-        x.set(feature, isOn);
-        want.items.add(8 + number);
-      } else if (kind == 1) {
-        x.otherwise();
-        want.items.add(16);
-      } else if (kind == 2) {
-        x.done();
-        want.items.add(17);
-      } else {
-        x.when(feature, isOn);
-        want.items.add(number);
-      }
-    } catch (IllegalStateException e) {
-      return;
+    int number = below(8);
+    if (kind == 0) {
+      history.append(8 + number);
+    } else if (kind == 1) {
+      history.append(16);
+    } else if (kind == 2) {
+      history.append(17);
+    } else {
+      history.append(number);
     }
   }
 
-  private static void change(VariantParser x, Reference want) {
-    for (int k = below(3); k > 0 && x.size() > 0; k--) {
-      x.drop();
-      want.items.remove(want.items.size() - 1);
+  private static void change(History history) {
+    for (int k = below(3); k > 0 && history.want.size() > 0; k--) {
+      history.drop();
     }
-    for (int k = below(3); k > 0 && x.size() > 0; k--) {
-      int item = below(x.size());
-      char token = TOKENS.charAt(below(TOKENS.length()));
-      if (want.items.get(item) > 17) {
-        Check.equal("replace()", x.replace(item, token), want.items.get(item));
-        want.items.set(item, (int) token);
+    for (int k = below(3); k > 0 && history.want.size() > 0; k--) {
+      int item = below(history.want.size());
+      if (history.want.isToken(item)) {
+        history.replace(item, token());
       }
     }
     if (below(2) == 0) {
-      write(x, want, TOKENS.charAt(below(TOKENS.length())));
+      history.append(token());
     }
   }
 
   // ---- comparing
 
   /** Returns how many variants without an error it has compared. */
-  private static int compare(VariantParser x, Reference want) {
-    String source = want.items.toString();
-    int size = want.items.size();
-    Check.equal(source + ": size()", x.size(), size);
-    Check.equal(source + ": unfinished()", x.unfinished(), want.unfinished());
-    for (int i = 0; i < size; i++) {
-      String at = source + ": item " + i;
-      Check.equal(at, x.item(i), want.items.get(i));
+  private static int compare(History history) {
+    Reference want = history.want;
+    String source = want + ": ";
+    compareWhole(history.parser(), want, source);
+    for (int from = 0; from < want.size(); from += ITEMS_AT_ONCE) {
+      compareItems(history.parser(), want, from, source);
+    }
+    int wellFormed = 0;
+    for (int c = 0; c < 16; c++) {
+      VariantParser x = history.parser();
+      compareVariant(x, want, c, source);
+      if (want.unfinished() == 0) {
+        compareReading(x, want, c, source);
+        wellFormed += want.error(c) < 0 ? 1 : 0;
+      }
+    }
+    return wellFormed;
+  }
+
+  private static void compareWhole(VariantParser x, Reference want, String source) {
+    Check.equal(source + "size()", x.size(), want.size());
+    Check.equal(source + "unfinished()", x.unfinished(), want.unfinished());
+    Check.equal(source + "dead()", x.dead(), want.dead());
+    Check.equal(source + "variants()", x.variants(), want.variants());
+    Check.equal(source + "digest()", x.digest(), want.digest());
+    if (want.unfinished() == 0) {
+      Check.equal(source + "wrong()", x.wrong(), want.wrong());
+      Check.equal(source + "firstError()", x.firstError(), want.firstError());
+      Check.equal(source + "behaviours()", x.behaviours(), want.behaviours());
+      Check.equal(source + "work()", x.work(), want.work());
+      Check.equalDouble(source + "gain()", x.gain(), want.gain());
+    }
+  }
+
+  private static void compareItems(VariantParser x, Reference want, int from, String source) {
+    for (int i = from; i < Math.min(want.size(), from + ITEMS_AT_ONCE); i++) {
+      String at = source + "item " + i;
       int presence = want.presence(i);
+      Check.equal(at, x.item(i), want.item(i));
       Check.equal(at + ", presence", x.presence(i), presence);
       Check.equal(at + ", features", x.features(presence), want.features(presence));
       for (int f = 0; f < 4; f++) {
         Check.equal(at + ", on " + f, x.on(f, i), want.on(f, i));
       }
-    }
-    Check.equal(source + ": dead()", x.dead(), want.dead());
-    Check.equal(source + ": variants()", x.variants(), want.variants());
-    for (int c = 0; c < 16; c++) {
-      List<Integer> places = want.places(c);
-      Check.equal(source + ": length " + c, x.length(c), places.size());
-      for (int k = 0; k < places.size(); k++) {
-        Check.equal(source + ": place " + c + " " + k, x.place(c, k), places.get(k));
+      if (want.unfinished() == 0) {
+        Check.equal(at + ", groups", x.groups(i), want.groups(i));
       }
     }
-    return want.unfinished() == 0 ? compareReading(x, want, source) : 0;
   }
 
-  private static int compareReading(VariantParser x, Reference want, String source) {
-    int wrong = 0;
-    int first = -1;
-    int read = 0;
-    int wellFormed = 0;
-    Set<String> behaviours = new HashSet<>();
-    for (int c = 0; c < 16; c++) {
-      int error = want.error(c);
-      List<String> stacks = want.stacks(c);
-      read += stacks.size();
-      Check.equal(source + ": error " + c, x.error(c), error);
-      for (int k = 0; k < want.places(c).size(); k++) {
-        Check.equal(source + ": stack " + c + " " + k,
-            x.stack(c, k), k < stacks.size() ? stacks.get(k).length() : -1);
-      }
-      if (error < 0) {
-        wellFormed++;
-        behaviours.add(compareRun(x, want.run(c), c, source));
-      } else {
-        wrong |= 1 << c;
-        first = first < 0 ? error : Math.min(first, error);
-      }
+  private static void compareVariant(VariantParser x, Reference want, int c, String source) {
+    List<Integer> places = want.places(c);
+    Check.equal(source + "length " + c, x.length(c), places.size());
+    for (int k = 0; k < places.size(); k++) {
+      Check.equal(source + "place " + c + " " + k, x.place(c, k), places.get(k));
     }
-    Check.equal(source + ": wrong()", x.wrong(), wrong);
-    Check.equal(source + ": firstError()", x.firstError(), first);
-    Check.equal(source + ": behaviours()", x.behaviours(), behaviours.size());
-    compareGroups(x, want, source, read);
-    return wellFormed;
   }
 
-  private static String compareRun(VariantParser x, int[] run, int configuration, String source) {
-    StringBuilder written = new StringBuilder();
-    String at = source + ": run " + configuration;
-    Check.equal(at + ", outputs", x.outputs(configuration), run.length - 4);
-    for (int k = 0; k < run.length; k++) {
-      if (k < 4) {
-        Check.equal(at + ", variable " + k, x.variable(configuration, k), run[k]);
-      } else {
-        Check.equal(at + ", output " + (k - 4), x.output(configuration, k - 4), run[k]);
-        written.append(run[k]).append(' ');
+  private static void compareReading(VariantParser x, Reference want, int c, String source) {
+    Check.equal(source + "error " + c, x.error(c), want.error(c));
+    for (int k = 0; k < want.places(c).size(); k++) {
+      Check.equal(source + "stack " + c + " " + k, x.stack(c, k), want.stack(c, k));
+    }
+    if (want.error(c) < 0) {
+      int[] run = want.run(c);
+      Check.equal(source + "outputs " + c, x.outputs(c), run.length - 4);
+      for (int k = 0; k < run.length; k++) {
+        if (k < 4) {
+          Check.equal(source + "variable " + c + " " + k, x.variable(c, k), run[k]);
+        } else {
+          Check.equal(source + "output " + c + " " + (k - 4), x.output(c, k - 4), run[k]);
+        }
       }
     }
-    return written.toString();
-  }
-
-  private static void compareGroups(VariantParser x, Reference want, String source, int read) {
-    int work = 0;
-    for (int i = 0; i < want.items.size(); i++) {
-      int groups = want.groups(i);
-      Check.equal(source + ": groups " + i, x.groups(i), groups);
-      work += groups;
-    }
-    Check.equal(source + ": work()", x.work(), work);
-    Check.equalDouble(source + ": gain()", x.gain(), work == 0 ? 0.0 : (double) read / work);
   }
 }
